@@ -847,7 +847,7 @@ public final class ToldPowers {
             next = 0;
             tokens = 0;
             skipBlanks();
-            while (next < length && tokens < TAPE_ROOM) {
+            for (int most = 0; most < TAPE_ROOM && next < length; most++) {
                 cutToken();
                 skipBlanks();
             }
@@ -1385,11 +1385,8 @@ public final class ToldPowers {
 
         /** Each step doubles how many of the x are covered. */
         private void addLine(int factor, int wanted) {
-            int covered = 1;
-            while (covered < wanted) {
-                int more = Math.min(covered, wanted - covered);
-                orShifted(bits, bits, factor * more);
-                covered += more;
+            for (int covered = 1; covered < wanted; covered += covered) {
+                orShifted(bits, bits, factor * Math.min(covered, wanted - covered));
             }
         }
 
@@ -1615,7 +1612,7 @@ public final class ToldPowers {
         }
     }
 
-    /** Reads an identity off the tape as steps for a stack. */
+    /** Reads an identity off the tape, step by step. */
     private static final class IdentityReader {
         private final Tape tape;
         private Identity draft;
@@ -1656,7 +1653,7 @@ public final class ToldPowers {
                 if (!readProduct(open)) {
                     return false;
                 }
-                draft.addStep(plus ? PLUS : MINUS, 0);
+                draft.addJoint(plus ? PLUS : MINUS);
             }
             return tape.fail(FAULT_PARTS);
         }
@@ -1673,7 +1670,7 @@ public final class ToldPowers {
                 if (!readPower(open)) {
                     return false;
                 }
-                draft.addStep(TIMES, 0);
+                draft.addJoint(TIMES);
             }
             return tape.fail(FAULT_PARTS);
         }
@@ -1692,7 +1689,7 @@ public final class ToldPowers {
             if (tape.amount() > MOST_POWER) {
                 return tape.fail(FAULT_POWER);
             }
-            draft.addStep(POWER, tape.amount());
+            draft.addPower(tape.amount());
             tape.advance();
             return true;
         }
@@ -1714,10 +1711,9 @@ public final class ToldPowers {
                 return readInner(open + 1);
             }
             if (letter != NONE) {
-                draft.letters |= 1 << letter;
-                draft.addStep(PUSH_LETTER, letter);
+                draft.addLetter(letter);
             } else {
-                draft.addStep(PUSH_N, tape.amount());
+                draft.addNumber(tape.amount());
             }
             tape.advance();
             return true;
@@ -1738,19 +1734,30 @@ public final class ToldPowers {
         }
     }
 
-    /** Both sides as steps for a stack, and what was found when they were tried. */
+    /**
+     * Both sides as steps, each behind those whose numbers it takes, and what was found when they were tried. From
+     * row to row of a box most letters stay as they are, so only the steps that use another one are taken again.
+     */
     private static final class Identity {
         private static final int SMALL = 2000000000;
+        private static final int ALWAYS = 1 << LETTERS;
+        private static final int ALL = 2 * ALWAYS - 1;
 
         private final int[] steps;
         private final int[] data;
-        private final long[] stack;
+        private final int[] left;
+        private final int[] right;
+        private final int[] uses;
+        private final long[] numbers;
+        private final boolean[] beyond;
+        private final int[] open;
         private final int[] values;
         private final int[] brokenRows;
         private final int[] firstBroken;
         private final boolean[] firstBeyond;
         private final boolean[] boxKnown;
         private int size;
+        private int height;
         private int split;
         private int letters;
         private int parts;
@@ -1759,7 +1766,12 @@ public final class ToldPowers {
         Identity() {
             steps = new int[CODE_ROOM];
             data = new int[CODE_ROOM];
-            stack = new long[CODE_ROOM];
+            left = new int[CODE_ROOM];
+            right = new int[CODE_ROOM];
+            uses = new int[CODE_ROOM];
+            numbers = new long[CODE_ROOM];
+            beyond = new boolean[CODE_ROOM];
+            open = new int[CODE_ROOM];
             values = new int[LETTERS];
             brokenRows = new int[BOXES];
             firstBroken = new int[BOXES * LETTERS];
@@ -1769,6 +1781,7 @@ public final class ToldPowers {
 
         void clear() {
             size = 0;
+            height = 0;
             split = 0;
             letters = 0;
             parts = 0;
@@ -1781,20 +1794,67 @@ public final class ToldPowers {
             return size > 0;
         }
 
-        void addStep(int step, int datum) {
-            if (size < CODE_ROOM) {
-                steps[size] = step;
-                data[size] = datum;
-                size++;
-            }
+        void addNumber(int number) {
+            addStep(PUSH_N, number, ALWAYS);
         }
 
-        private boolean uses(int letter) {
+        void addLetter(int letter) {
+            letters |= 1 << letter;
+            addStep(PUSH_LETTER, letter, ALWAYS | 1 << letter);
+        }
+
+        void addPower(int power) {
+            int base = takeOpen();
+            left[size] = base;
+            addStep(POWER, power, uses[base]);
+        }
+
+        void addJoint(int step) {
+            int second = takeOpen();
+            int first = takeOpen();
+            left[size] = first;
+            right[size] = second;
+            addStep(step, 0, uses[first] | uses[second]);
+        }
+
+        private void addStep(int step, int datum, int used) {
+            if (size >= CODE_ROOM - 1) {
+                return;
+            }
+            steps[size] = step;
+            data[size] = datum;
+            uses[size] = used;
+            open[height] = size;
+            height++;
+            size++;
+        }
+
+        /** The latest step whose number no other has taken yet. */
+        private int takeOpen() {
+            if (height < 1) {
+                return 0;
+            }
+            height--;
+            return open[height];
+        }
+
+        private boolean isUsed(int letter) {
             return (letters >> letter & 1) == 1;
         }
 
         int letterCount() {
             return Integer.bitCount(letters);
+        }
+
+        /** False if a number met is beyond longs; else the side's number is the result. */
+        boolean evaluate(int side) {
+            retake(ALL);
+            int last = side == 0 ? split - 1 : size - 1;
+            if (last < 0 || beyond[last]) {
+                return false;
+            }
+            result = numbers[last];
+            return true;
         }
 
         /** Tries all rows of numbers -b .. b, once for each b. */
@@ -1806,15 +1866,17 @@ public final class ToldPowers {
             brokenRows[b] = 0;
             int rowCount = 1;
             for (int letter = 0; letter < LETTERS; letter++) {
-                values[letter] = uses(letter) ? -b : 0;
-                rowCount *= uses(letter) ? 2 * b + 1 : 1;
+                values[letter] = isUsed(letter) ? -b : 0;
+                rowCount *= isUsed(letter) ? 2 * b + 1 : 1;
             }
+            int changed = ALL;
             for (int row = 0; row < rowCount; row++) {
+                retake(changed);
                 int verdict = judgeRow();
                 if (verdict != HOLDS) {
                     noteBroken(b, verdict);
                 }
-                stepRow(b);
+                changed = stepRow(b);
             }
         }
 
@@ -1829,76 +1891,75 @@ public final class ToldPowers {
         }
 
         private int judgeRow() {
-            if (!evaluate(0)) {
+            int last = split - 1;
+            int end = size - 1;
+            if (last < 0 || beyond[last] || beyond[end]) {
                 return BEYOND_LONGS;
             }
-            long left = result;
-            if (!evaluate(1)) {
-                return BEYOND_LONGS;
-            }
-            return left == result ? HOLDS : UNLIKE_SIDES;
+            return numbers[last] == numbers[end] ? HOLDS : UNLIKE_SIDES;
         }
 
-        private void stepRow(int b) {
+        /** Which letters have another number in the next row. */
+        private int stepRow(int b) {
+            int changed = 0;
             for (int letter = LETTERS - 1; letter >= 0; letter--) {
-                if (uses(letter)) {
+                if (isUsed(letter)) {
+                    changed |= 1 << letter;
                     if (values[letter] < b) {
                         values[letter]++;
-                        return;
+                        return changed;
                     }
                     values[letter] = -b;
                 }
             }
+            return changed;
         }
 
-        /** False if a number met is beyond longs; else the side's number is the result. */
-        boolean evaluate(int side) {
-            int end = side == 0 ? split : size;
-            int height = 0;
-            for (int i = side == 0 ? 0 : split; i < end; i++) {
-                int step = steps[i];
-                if (step == PUSH_N || step == PUSH_LETTER) {
-                    stack[height] = step == PUSH_N ? data[i] : values[data[i]];
-                    height++;
-                } else if (step == POWER) {
-                    if (height < 1 || !raise(stack[height - 1], data[i])) {
-                        return false;
-                    }
-                    stack[height - 1] = result;
-                } else {
-                    if (height < 2 || !combine(step, stack[height - 2], stack[height - 1])) {
-                        return false;
-                    }
-                    height--;
-                    stack[height - 1] = result;
+        private void retake(int changed) {
+            for (int i = 0; i < size; i++) {
+                if ((uses[i] & changed) != 0) {
+                    takeStep(i);
                 }
             }
-            result = height > 0 ? stack[height - 1] : 0;
-            return true;
         }
 
-        private boolean combine(int step, long left, long right) {
+        private void takeStep(int i) {
+            int step = steps[i];
+            boolean fits = true;
+            if (step == PUSH_N) {
+                result = data[i];
+            } else if (step == PUSH_LETTER) {
+                result = values[data[i]];
+            } else if (step == POWER) {
+                fits = !beyond[left[i]] && raise(numbers[left[i]], data[i]);
+            } else {
+                fits = !beyond[left[i]] && !beyond[right[i]] && combine(step, numbers[left[i]], numbers[right[i]]);
+            }
+            numbers[i] = result;
+            beyond[i] = !fits;
+        }
+
+        private boolean combine(int step, long first, long second) {
             if (step == TIMES) {
-                result = left * right;
-                return productFits(left, right);
+                result = first * second;
+                return productFits(first, second);
             }
             if (step == PLUS) {
-                result = left + right;
-                return ((left ^ result) & (right ^ result)) >= 0;
+                result = first + second;
+                return ((first ^ result) & (second ^ result)) >= 0;
             }
-            result = left - right;
-            return ((left ^ right) & (left ^ result)) >= 0;
+            result = first - second;
+            return ((first ^ second) & (first ^ result)) >= 0;
         }
 
         private boolean raise(long base, int power) {
-            long raised = 1;
+            result = 1;
             for (int i = 0; i < power; i++) {
-                if (!productFits(raised, base)) {
+                if (!productFits(result, base)) {
                     return false;
                 }
-                raised *= base;
+                result *= base;
             }
-            result = raised;
             return true;
         }
 
@@ -1906,14 +1967,14 @@ public final class ToldPowers {
             return value >= -SMALL && value <= SMALL;
         }
 
-        private static boolean productFits(long left, long right) {
-            if (isSmall(left) && isSmall(right) || right == 0) {
+        private static boolean productFits(long first, long second) {
+            if (isSmall(first) && isSmall(second) || second == 0) {
                 return true;
             }
-            if (right == -1) {
-                return left != Long.MIN_VALUE;
+            if (second == -1) {
+                return first != Long.MIN_VALUE;
             }
-            return left * right / right == left;
+            return first * second / second == first;
         }
     }
 

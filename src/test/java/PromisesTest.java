@@ -28,6 +28,8 @@ public final class PromisesTest {
     shownTexts();
     gapsAndRanks();
     looks();
+    edges();
+    fullTapes();
     check.end();
   }
 
@@ -115,6 +117,11 @@ public final class PromisesTest {
     wrong("  \n ", 1, 4, 0);
     wrong("lines", 1, 0, 0);
     wrong("Line", 1, 0, 0);
+    wrong("mine", 1, 0, 0);
+    wrong("fube", 1, 0, 0);
+    wrong("lina", 1, 0, 0);
+    wrong("line grom 1 to 2", 1, 5, 0);
+    wrong("line from 1 so 2", 1, 12, 0);
     wrong("+line", 1, 0, 0);
     wrong("line +  ", 1, 8, 1);
     wrong("line line", 1, 5, 0);
@@ -217,6 +224,7 @@ public final class PromisesTest {
     unproved("25 ", 1, 3, 0, -1);
     unproved("25;", 1, 2, 0, -1);
     unproved("25nott;", 1, 2, 0, -1);
+    unproved("35bot;", 1, 2, 0, -1);
     unproved("--25=5,0;", 1, 1, 0, -1);
     unproved("-", 1, 1, 0, -1);
     unproved("00025=5,0;", 1, 0, 0, -1);
@@ -319,6 +327,8 @@ public final class PromisesTest {
     unequal("a=((b)))", 1, 7, 1, 0);
     unequal("()=a", 1, 1, 0, 1);
     unequal("ab=a", 1, 0, 0, 0);
+    unequal("az=a", 1, 0, 0, 0);
+    unequal("a=za", 1, 2, 1, 0);
     unequal("a*xa=a", 1, 2, 0, 0);
     unequal("g=a", 1, 0, 0, 0);
     unequal("A=a", 1, 0, 0, 0);
@@ -834,5 +844,86 @@ public final class PromisesTest {
     check.due("look(7)", x.look(7), -1);
     check.due("look(-1)", x.look(-1), -1);
     check.due("look(MIN)", x.look(MIN), -1);
+  }
+
+  private static void edges() {
+    ToldPowers x = Check.with("line from 0 to 5", "line from 3000 to 3000+line from 3000 to 3000+line from 3000 to 3000+line from 3000 to 3000+line from 3000 to 3000",
+        "line+line+line+line+line", "square");
+    check.due("many: the last number", x.many(2, 3000, 1, false), 3000);
+    check.due("common: the last number", x.common(0, 2, 0, 5, -1), 6);
+    check.due("common: the last number", x.common(0, 2, 0, 5, 5), 5);
+    check.due("the farthest sum", x.nearest(1, -3000), 15000);
+    check.due("greed of five terms", x.greed(1, -3000, -1), -18000);
+    check.due("greed of five terms", x.greed(1, -3000, 4), 3000);
+    check.due("enough of five terms", x.enough(1, 3000), 1);
+    check.due("enough of five terms", x.enough(1, 2999), -1);
+    check.due("greed to the greatest x", x.greed(0, 9, 0), 5);
+    check.due("greed to the greatest x", x.greed(0, 5, 0), 5);
+    check.due("never of one form", x.never(3, 5, -1), 2);
+    check.due("never of another form", x.never(2, 5, -1), 0);
+    check.due("number", x.number(0, 3, 3, 0, 0, 0, 0), 0);
+    check.due("number by another slot", x.number(2, 2, 1, 0, 1, 0, 0), 12);
+    check.due("way by another slot", x.way(3, 9, 0, 0), 3);
+    check.due("one term joined with none", new ToldPowers().join(0, 0, 0), false);
+    check.due("one term joined with one", x.join(3, 3, 2), true);
+    check.due("ways of both", x.ways(2, 25), 4);
+    check.due("join one with none", x.drop(3, 0) && x.join(0, 3, 2), true);
+    check.due("ways of one", x.ways(2, 5), 1);
+    Check.identity(x, "a=");
+    check.due("a fault", x.fault(0), 1);
+    Check.identity(x, "a=a");
+    check.text("and none", Check.fault(x), "0 -1 -1 -1");
+    check.due("tried(0, 0)", x.tried(0, 0), 0);
+    Check.identity(x, "a=a+1");
+    check.due("tried(0, 0)", x.tried(0, 0), 1);
+    Check.put(x, "line");
+    check.due("the greatest byte", x.feed(-1, -1, -1, -1, -1), 24);
+    check.due("form", x.form(0), -1);
+    check.text("its place", Check.fault(x), "1 4 0 -1");
+    ToldPowers y = Check.with("line from -3000 to -3000+line from -3000 to -3000+line from -3000 to -3000+line from -3000 to -3000+line from -3000 to -3000",
+        "line from 3000 to 3000", "line from -3000 to 3000+line from -3000 to 3000+line from -3000 to 3000+line from -3000 to 3000+line from -3000 to 3000");
+    check.due("all sums below", y.nearest(0, 3000), -15000);
+    check.due("all sums below", y.ways(0, -3000), 0);
+    check.due("all sums below", y.unlike(0, -3000), 0);
+    check.due("only the last", y.ways(1, 3000), 1);
+    check.due("only the last", y.full(1), 3000);
+    check.due("only the last", y.unlike(1, 3000), 1);
+    check.due("one sum alone", Check.with("line from 3000 to 3000").ways(0, 3000), 1);
+    check.due("one sum alone", Check.with("line from 3000 to 3000").unlike(0, 3000), 1);
+    check.due("one sum alone", Check.with("line from 3000 to 3000").way(0, 3000, 0, 0), 3000);
+    long middle = y.ways(2, 0);
+    check.due("the last way", y.way(2, 0, middle - 1, 0), 3000);
+    check.due("the last way", y.way(2, 0, middle - 1, 1), 3000);
+    check.due("the last way", y.way(2, 0, middle - 1, 2), 0);
+    check.due("the last way", y.way(2, 0, middle - 1, 4), -3000);
+    check.due("as many on both sides", y.ways(2, 3000), y.ways(2, -3000));
+    check.due("as many on both sides", y.unlike(2, 3000), y.unlike(2, -3000));
+  }
+
+  private static String times(String text, int count) {
+    StringBuilder all = new StringBuilder();
+    for (int i = 0; i < count; i++) {
+      all.append(text);
+    }
+    return all.toString();
+  }
+
+  private static void fullTapes() {
+    ToldPowers x = Check.with("line");
+    String[] signs = {";", "(", "-", " ", "1", "a", "z", "+", (char) 255 + ""};
+    for (String sign : signs) {
+      String text = times(sign, 800);
+      check.due("form of 800 " + sign, Check.form(x, 0, text), -1);
+      check.due("prove of 800 " + sign, Check.prove(x, 0, text), sign.equals(" ") ? 0 : -1);
+      check.due("identity of 800 " + sign, Check.identity(x, text), -1);
+    }
+    check.due("blanks at the end", Check.form(x, 0, "line" + times("\n", 796)), 1);
+    check.due("blanks ahead", Check.form(x, 0, times(" ", 796) + "cube"), 1);
+    check.due("the end of a full tape", Check.form(x, 0, times(" ", 795) + "cube+"), -1);
+    check.text("the end of a full tape", Check.fault(x), "1 800 1 -1");
+    check.due("an identity of 800 bytes", Check.identity(x, times(" ", 797) + "b=b"), 1);
+    check.due("a word to the end", Check.identity(x, times(" ", 794) + "b=line"), -1);
+    check.text("a word to the end", Check.fault(x), "1 796 1 0");
+    check.due("digits to the end", Check.identity(x, times(" ", 794) + "b=1234"), 1);
   }
 }
