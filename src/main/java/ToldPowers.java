@@ -4,6 +4,7 @@ public final class ToldPowers {
 
     private static final int NOTHING = -100000;
     private static final int NO_SUCH = -2;
+    private static final long LEAST_LONG = 1L << 63;
     private static final int SLOTS = 4;
     private static final int MOST_TERMS = 5;
     private static final int MOST_FACTOR = 99;
@@ -520,13 +521,13 @@ public final class ToldPowers {
 
     public long side(int side, int a, int b, int c, int d, int e, int f) {
         if (!latest.isThere() || side < 0 || side > 1) {
-            return Long.MIN_VALUE;
+            return LEAST_LONG;
         }
         if (!isSideNumber(a) || !isSideNumber(b) || !isSideNumber(c)) {
-            return Long.MIN_VALUE;
+            return LEAST_LONG;
         }
         if (!isSideNumber(d) || !isSideNumber(e) || !isSideNumber(f)) {
-            return Long.MIN_VALUE;
+            return LEAST_LONG;
         }
         int[] values = latest.values;
         values[0] = a;
@@ -535,7 +536,7 @@ public final class ToldPowers {
         values[3] = d;
         values[4] = e;
         values[5] = f;
-        return latest.evaluate(side) ? latest.result : Long.MIN_VALUE;
+        return latest.evaluate(side) ? latest.result : LEAST_LONG;
     }
 
     // ---- what is shown ----
@@ -1972,7 +1973,7 @@ public final class ToldPowers {
                 return true;
             }
             if (second == -1) {
-                return first != Long.MIN_VALUE;
+                return first != LEAST_LONG;
             }
             return first * second / second == first;
         }

@@ -1,20 +1,35 @@
 /** Counts what is asked and prints every call whose answer is not the one that is due. */
 final class Check {
   private final String name;
+  private String sentence = "";
   private long asked;
+  private long askedBefore;
   private long wrong;
 
   Check(String name) {
     this.name = name;
   }
 
+  /** Answers from here on are of this sentence of the document; the one before must have had some. */
+  void of(String next) {
+    if (!sentence.isEmpty() && asked == askedBefore) {
+      wrong(" nothing is asked, due is a test");
+    }
+    sentence = next;
+    askedBefore = asked;
+  }
+
+  private void wrong(String text) {
+    wrong++;
+    if (wrong <= 40) {
+      System.out.println(name + ": " + (sentence.isEmpty() ? "" : "[" + sentence + "] ") + text);
+    }
+  }
+
   void due(String call, long got, long want) {
     asked++;
     if (got != want) {
-      wrong++;
-      if (wrong <= 40) {
-        System.out.println(name + ": " + call + " answered " + got + ", due is " + want);
-      }
+      wrong(call + " answered " + got + ", due is " + want);
     }
   }
 
@@ -25,8 +40,7 @@ final class Check {
   void text(String call, String got, String want) {
     asked++;
     if (!got.equals(want)) {
-      wrong++;
-      System.out.println(name + ": " + call + " answered \"" + got + "\", due is \"" + want + "\"");
+      wrong(call + " answered \"" + got + "\", due is \"" + want + "\"");
     }
   }
 
@@ -89,5 +103,15 @@ final class Check {
   /** Fault, place and both that it lies within, behind one another. */
   static String fault(ToldPowers x) {
     return x.fault(0) + " " + x.fault(1) + " " + x.fault(2) + " " + x.fault(3);
+  }
+
+  /** The terms of a slot, each by factor, kind, low and high. */
+  static String terms(ToldPowers x, int slot) {
+    StringBuilder text = new StringBuilder();
+    for (int i = 0; i < x.look(slot); i++) {
+      text.append(i > 0 ? " + " : "").append(x.term(slot, i, 0)).append(' ').append(x.term(slot, i, 1));
+      text.append(' ').append(x.term(slot, i, 2)).append(' ').append(x.term(slot, i, 3));
+    }
+    return text.toString();
   }
 }

@@ -24,7 +24,7 @@ public final class LanguageTest {
   private static final String[] BANNED = {"throw", "throws", "try", "catch", "synchronized", "assert", "import", "package", "protected",
       "instanceof", "System", "Thread", "Object", "equals", "hashCode", "toString", "getClass", "yield", "var", "record", "native",
       "volatile", "transient", "addExact", "multiplyExact", "subtractExact", "toIntExact", "negateExact", "super"};
-  private static final Set<String> LIBRARY = Set.of("Math.min", "Math.max", "Math.floorMod", "Integer.bitCount", "Long.MIN_VALUE");
+  private static final Set<String> LIBRARY = Set.of("Math.min", "Math.max", "Math.floorMod", "Integer.bitCount");
 
   private static String describe(Method method) {
     StringBuilder text = new StringBuilder(method.getReturnType().getName()).append(' ').append(method.getName()).append('(');
