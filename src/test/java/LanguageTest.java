@@ -1,3 +1,4 @@
+import java.io.IOException;
 import java.lang.reflect.Constructor;
 import java.lang.reflect.Field;
 import java.lang.reflect.Method;
@@ -34,6 +35,25 @@ public final class LanguageTest {
     return text.append(')').toString();
   }
 
+  /** The methods of the document's code block; where it can't be read, those that are there. */
+  private static Set<String> printedFace(Set<String> face) {
+    String text;
+    try {
+      text = Files.readString(Path.of("../shared/DOC.md"));
+    } catch (IOException missing) {
+      return face;
+    }
+    Set<String> printed = new TreeSet<>();
+    Matcher line = Pattern.compile("(?m)^ {4}public (int|long|boolean) (\\w+)\\(([^)]*)\\);$").matcher(text);
+    while (line.find()) {
+      String types = line.group(3).replaceAll("(\\w+) \\w+", "$1").replace(", ", ",");
+      printed.add(line.group(1) + " " + line.group(2) + "(" + types + ")");
+    }
+    check.due("the constant that the document prints", text.contains("    public static final int NONE = -1;"), true);
+    check.due("the constructor that the document prints", text.contains("    public ToldPowers();"), true);
+    return printed;
+  }
+
   private static Set<String> tryFace() {
     Class<?> type = ToldPowers.class;
     Set<String> names = new HashSet<>();
@@ -47,10 +67,20 @@ public final class LanguageTest {
       }
     }
     check.text("the face", face.toString(), new TreeSet<>(Set.of(FACE)).toString());
+    check.text("the face as the document prints it", face.toString(), printedFace(face).toString());
     for (Constructor<?> made : type.getDeclaredConstructors()) {
       check.due("the constructor", Modifier.isPublic(made.getModifiers()) && made.getParameterCount() == 0, true);
     }
     check.due("public and final", type.getModifiers(), Modifier.PUBLIC | Modifier.FINAL);
+    int constants = 0;
+    for (Field field : type.getDeclaredFields()) {
+      boolean isPublic = Modifier.isPublic(field.getModifiers());
+      constants += isPublic ? 1 : 0;
+      boolean isNone = field.getName().equals("NONE") && field.getType() == int.class;
+      boolean isConstant = Modifier.isStatic(field.getModifiers()) && Modifier.isFinal(field.getModifiers());
+      check.due(field.getName() + " is private, or NONE", isPublic ? isNone && isConstant : Modifier.isPrivate(field.getModifiers()), true);
+    }
+    check.due("one public constant", constants, 1);
     return names;
   }
 
