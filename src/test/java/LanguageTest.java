@@ -26,6 +26,7 @@ public final class LanguageTest {
       "instanceof", "System", "Thread", "Object", "equals", "hashCode", "toString", "getClass", "yield", "var", "record", "native",
       "volatile", "transient", "addExact", "multiplyExact", "subtractExact", "toIntExact", "negateExact", "super"};
   private static final Set<String> LIBRARY = Set.of("Math.min", "Math.max", "Math.floorMod", "Integer.bitCount");
+  private static final Set<String> CALLED = Set.of("length", "charAt", "min", "max", "abs", "floorMod", "bitCount");
 
   private static String describe(Method method) {
     StringBuilder text = new StringBuilder(method.getReturnType().getName()).append(' ').append(method.getName()).append('(');
@@ -84,8 +85,51 @@ public final class LanguageTest {
     return names;
   }
 
+  /** Numbers, texts, classes of the file, and rows of them of one dimension. */
+  private static boolean mayStand(Class<?> type) {
+    Class<?> part = type.isArray() ? type.getComponentType() : type;
+    boolean own = part.getName().startsWith("ToldPowers");
+    boolean text = part == String.class && !type.isArray();
+    return part.isPrimitive() || own || text;
+  }
+
+  private static void tryTypes(Class<?> type) {
+    for (Field field : type.getDeclaredFields()) {
+      check.due("the type of " + field.getName(), mayStand(field.getType()), true);
+      boolean plain = field.getType().isPrimitive() || field.getType() == String.class;
+      check.due("no other static than constants: " + field.getName(), !Modifier.isStatic(field.getModifiers()) || plain, true);
+    }
+    for (Method method : type.getDeclaredMethods()) {
+      check.due("the answer's type of " + method.getName(), mayStand(method.getReturnType()), true);
+      for (Class<?> argument : method.getParameterTypes()) {
+        check.due("the arguments' types of " + method.getName(), mayStand(argument), true);
+      }
+    }
+  }
+
+  /** Only methods of the file and of the library are called, texts aren't joined by +, and each loop has a bound. */
+  private static void tryCalls(String plain, Class<?>[] inner) {
+    Set<String> own = new HashSet<>();
+    for (Method method : ToldPowers.class.getDeclaredMethods()) {
+      own.add(method.getName());
+    }
+    for (Class<?> type : inner) {
+      for (Method method : type.getDeclaredMethods()) {
+        own.add(method.getName());
+      }
+    }
+    Matcher called = Pattern.compile("\\.(\\w+)\\(").matcher(plain);
+    while (called.find()) {
+      check.due(called.group(1) + " may be called", own.contains(called.group(1)) || CALLED.contains(called.group(1)), true);
+    }
+    check.due("no text is joined by +", Pattern.compile("\"\"\\s*\\+|\\+\\s*\"\"").matcher(plain).find(), false);
+    check.due("no loop without a bound", Pattern.compile("while \\(true\\)|for \\([^;]*;\\s*;").matcher(plain).find(), false);
+    check.due("no initialiser block", Pattern.compile("static\\s*\\{").matcher(plain).find(), false);
+  }
+
   private static void tryClass(Class<?> type, Set<String> names) {
     int fields = 0;
+    tryTypes(type);
     for (Field field : type.getDeclaredFields()) {
       boolean isStatic = Modifier.isStatic(field.getModifiers());
       fields += isStatic ? 0 : 1;
@@ -145,6 +189,7 @@ public final class LanguageTest {
     }
     String source = Files.readString(Path.of("src/main/java/ToldPowers.java"));
     tryWords(withoutComments(source));
+    tryCalls(withoutComments(source), inner);
     tryLengths(source);
     check.end();
   }
